@@ -1,0 +1,71 @@
+/** What a test asks, what was due, and how many answers were not as due. */
+final class Due {
+    private final String test;
+    private int asked = 0;
+    private int wrong = 0;
+
+    Due(String test) {
+        this.test = test;
+    }
+
+    void is(String call, long got, long want) {
+        asked++;
+        if (got != want) {
+            wrong++;
+            if (wrong <= 40) {
+                System.out.println(test + ": " + call + " answered " + got + ", due is " + want);
+            }
+        }
+    }
+
+    void is(String call, boolean got, boolean want) {
+        is(call, got ? 1 : 0, want ? 1 : 0);
+    }
+
+    /** Feeds a text, filled up with zeros to whole feeds; how many bytes it has. */
+    static int feed(YearFigures x, String text) {
+        for (int at = 0; at < text.length(); at += 20) {
+            x.feed(four(text, at), four(text, at + 4), four(text, at + 8), four(text, at + 12), four(text, at + 16));
+        }
+        return text.length();
+    }
+
+    static int law(YearFigures x, String text) {
+        return x.law(feed(x, text));
+    }
+
+    static int report(YearFigures x, String text) {
+        return x.report(feed(x, text));
+    }
+
+    static int definition(YearFigures x, int d, String text) {
+        return x.definition(d, feed(x, text));
+    }
+
+    /** Tells as many counties of 10 people and figures with target 100. */
+    static YearFigures office(int counties, int figures) {
+        YearFigures x = new YearFigures();
+        for (int c = 0; c < counties; c++) {
+            x.county(c, 10);
+        }
+        for (int f = 0; f < figures; f++) {
+            x.figure(f, 100);
+        }
+        return x;
+    }
+
+    void end() {
+        System.out.println(test + ": " + asked + " answers asked, " + wrong + " not as due");
+        if (wrong != 0) {
+            System.exit(1);
+        }
+    }
+
+    private static int four(String text, int at) {
+        int four = 0;
+        for (int i = at; i < at + 4; i++) {
+            four = four << 8 | (i < text.length() ? text.charAt(i) & 255 : 0);
+        }
+        return four;
+    }
+}
