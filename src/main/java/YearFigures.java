@@ -150,7 +150,6 @@ public final class YearFigures {
             return NONE;
         }
         int fault = parser.readRules(n);
-        tape.size = 0;
         if (fault < 0) {
             return fault;
         }
@@ -163,7 +162,6 @@ public final class YearFigures {
             return NONE;
         }
         int fault = reports.read(n);
-        tape.size = 0;
         if (fault < 0) {
             return fault;
         }
@@ -329,7 +327,6 @@ public final class YearFigures {
             return NONE;
         }
         int fault = parser.readDefinition(n);
-        tape.size = 0;
         if (fault < 0) {
             return fault;
         }
@@ -462,7 +459,7 @@ public final class YearFigures {
         }
         int wrong = NONE;
         for (int c = 0; c < n && wrong == NONE; c++) {
-            if (tape.at(c) != books.countOf(c, f) % 256) {
+            if (tape.byteAt(c) != books.countOf(c, f) % 256) {
                 wrong = c;
             }
         }
@@ -544,10 +541,13 @@ public final class YearFigures {
         return bits != 0 && (bits & ~told) == 0 && Integer.bitCount(bits) <= most;
     }
 
-    /** The bytes that were fed and not yet read. */
+    /** The bytes that were fed and not yet read, and the place to which one of the readers has come. */
     private static final class Tape {
         private final int[] bytes = new int[TAPE];
         int size = 0;
+        private int end = 0;
+        private int place = 0;
+        private int fault = 0;
 
         void add(int four) {
             for (int shift = 24; shift >= 0 && size < TAPE; shift -= 8) {
@@ -560,8 +560,67 @@ public final class YearFigures {
             return within(n, least, most) && n <= size;
         }
 
-        int at(int place) {
-            return place >= 0 && place < size ? bytes[place] : END;
+        int byteAt(int at) {
+            return at >= 0 && at < size ? bytes[at] : END;
+        }
+
+        void startReading(int n) {
+            end = n;
+            place = 0;
+            fault = 0;
+        }
+
+        /** 0, or the fault as it is answered; the tape is empty then. */
+        int stopReading() {
+            size = 0;
+            return fault;
+        }
+
+        boolean isAtEnd() {
+            return place >= end;
+        }
+
+        int sign() {
+            return place < end ? byteAt(place) : END;
+        }
+
+        boolean isAtDigit() {
+            return within(sign(), '0', '9');
+        }
+
+        void step() {
+            place++;
+        }
+
+        boolean take(int wanted) {
+            if (sign() != wanted) {
+                return fail(WRONG_SIGN);
+            }
+            place++;
+            return true;
+        }
+
+        /** NONE behind a fault. */
+        int takeNumber(int mostDigits) {
+            if (!isAtDigit()) {
+                fail(WRONG_SIGN);
+                return NONE;
+            }
+            int number = 0;
+            for (int digits = 0; digits < mostDigits && isAtDigit(); digits++) {
+                number = number * 10 + sign() - '0';
+                place++;
+            }
+            if (isAtDigit()) {
+                fail(TOO_LONG);
+                return NONE;
+            }
+            return number;
+        }
+
+        boolean fail(int number) {
+            fault = -1000 * number - place;
+            return false;
         }
     }
 
@@ -825,9 +884,6 @@ public final class YearFigures {
     private static final class Parser {
         private final Tape text;
         private final Program into;
-        private int end = 0;
-        private int place = 0;
-        private int fault = 0;
 
         Parser(Tape text, Program into) {
             this.text = text;
@@ -836,45 +892,38 @@ public final class YearFigures {
 
         /** 0, or the fault as it is answered. */
         int readRules(int n) {
-            begin(n);
+            text.startReading(n);
+            into.clear();
             boolean goesOn = readRule();
-            for (int i = 0; i < LAW_BYTES && goesOn && place < end; i++) {
-                goesOn = take(';') && readRule();
+            for (int i = 0; i < LAW_BYTES && goesOn && !text.isAtEnd(); i++) {
+                goesOn = text.take(';') && readRule();
             }
-            return fault;
+            return text.stopReading();
         }
 
         /** 0, or the fault as it is answered. */
         int readDefinition(int n) {
-            begin(n);
+            text.startReading(n);
+            into.clear();
             into.openRule('(');
             if (readBracketed(0)) {
                 into.closeRule();
-                if (place < end) {
-                    fail(WRONG_SIGN);
-                }
+                text.take(END);
             }
-            return fault;
-        }
-
-        private void begin(int n) {
-            end = n;
-            place = 0;
-            fault = 0;
-            into.clear();
+            return text.stopReading();
         }
 
         private boolean readRule() {
-            int sign = sign();
-            if (sign != 'n' && sign != 'd' && sign != 'k' && sign != 'x') {
-                return fail(WRONG_SIGN);
+            int letter = text.sign();
+            if (letter != 'n' && letter != 'd' && letter != 'k' && letter != 'x') {
+                return text.fail(WRONG_SIGN);
             }
             if (into.ruleCount >= MOST_RULES) {
-                return fail(TOO_MANY);
+                return text.fail(TOO_MANY);
             }
-            place++;
-            into.openRule(sign);
-            if (sign != 'x' && !readE(0)) {
+            text.step();
+            into.openRule(letter);
+            if (letter != 'x' && !readE(0)) {
                 return false;
             }
             into.openCondition();
@@ -886,20 +935,20 @@ public final class YearFigures {
         }
 
         private boolean readBracketed(int open) {
-            if (sign() != '(') {
-                return fail(WRONG_SIGN);
+            if (text.sign() != '(') {
+                return text.fail(WRONG_SIGN);
             }
             if (open >= MOST_OPEN) {
-                return fail(TOO_DEEP);
+                return text.fail(TOO_DEEP);
             }
-            place++;
-            return readC(open + 1) && take(')');
+            text.step();
+            return readC(open + 1) && text.take(')');
         }
 
         private boolean readC(int open) {
             boolean goesOn = readPart(open);
-            for (int i = 0; i < LAW_BYTES && goesOn && sign() == '|'; i++) {
-                place++;
+            for (int i = 0; i < LAW_BYTES && goesOn && text.sign() == '|'; i++) {
+                text.step();
                 int jump = into.add('|', 0);
                 goesOn = readPart(open);
                 into.leadHere(jump);
@@ -909,8 +958,8 @@ public final class YearFigures {
 
         private boolean readPart(int open) {
             boolean goesOn = readTest(open);
-            for (int i = 0; i < LAW_BYTES && goesOn && sign() == '&'; i++) {
-                place++;
+            for (int i = 0; i < LAW_BYTES && goesOn && text.sign() == '&'; i++) {
+                text.step();
                 int jump = into.add('&', 0);
                 goesOn = readTest(open);
                 into.leadHere(jump);
@@ -919,33 +968,32 @@ public final class YearFigures {
         }
 
         private boolean readTest(int open) {
-            int first = sign();
-            if (first == '(') {
+            if (text.sign() == '(') {
                 return readBracketed(open);
             }
-            if (first == '!') {
+            if (text.sign() == '!') {
                 return readNot(open);
             }
             if (!readE(open)) {
                 return false;
             }
-            int sign = sign();
-            if (sign != '<' && sign != '>' && sign != '=') {
-                return fail(WRONG_SIGN);
+            int comparison = text.sign();
+            if (comparison != '<' && comparison != '>' && comparison != '=') {
+                return text.fail(WRONG_SIGN);
             }
-            place++;
+            text.step();
             if (!readE(open)) {
                 return false;
             }
-            into.add(sign, 0);
+            into.add(comparison, 0);
             return true;
         }
 
         private boolean readNot(int open) {
             if (open >= MOST_OPEN) {
-                return fail(TOO_DEEP);
+                return text.fail(TOO_DEEP);
             }
-            place++;
+            text.step();
             if (!readTest(open + 1)) {
                 return false;
             }
@@ -955,77 +1003,54 @@ public final class YearFigures {
 
         private boolean readE(int open) {
             boolean goesOn = readTerm(open);
-            int sign = sign();
-            for (int i = 0; i < LAW_BYTES && goesOn && (sign == '+' || sign == '-'); i++) {
-                place++;
+            for (int i = 0; i < LAW_BYTES && goesOn && isSum(text.sign()); i++) {
+                int operator = text.sign();
+                text.step();
                 goesOn = readTerm(open);
-                into.add(sign, 0);
-                sign = sign();
+                into.add(operator, 0);
             }
             return goesOn;
         }
 
         private boolean readTerm(int open) {
             boolean goesOn = readFactor(open);
-            int sign = sign();
-            for (int i = 0; i < LAW_BYTES && goesOn && (sign == '*' || sign == '/' || sign == '%'); i++) {
-                place++;
+            for (int i = 0; i < LAW_BYTES && goesOn && isProduct(text.sign()); i++) {
+                int operator = text.sign();
+                text.step();
                 goesOn = readFactor(open);
-                into.add(sign, 0);
-                sign = sign();
+                into.add(operator, 0);
             }
             return goesOn;
         }
 
         private boolean readFactor(int open) {
-            int sign = sign();
-            if (sign == '[') {
+            if (text.sign() == '[') {
                 if (open >= MOST_OPEN) {
-                    return fail(TOO_DEEP);
+                    return text.fail(TOO_DEEP);
                 }
-                place++;
-                return readE(open + 1) && take(']');
+                text.step();
+                return readE(open + 1) && text.take(']');
             }
-            if (within(sign, '0', '9')) {
-                return readNumber();
+            if (text.isAtDigit()) {
+                int number = text.takeNumber(5);
+                into.add(STEP_NUMBER, number);
+                return number != NONE;
             }
-            int letter = sign == END ? -1 : LETTERS.indexOf((char) sign);
+            int letter = text.isAtEnd() ? NONE : LETTERS.indexOf((char) text.sign());
             if (letter < 0) {
-                return fail(WRONG_SIGN);
+                return text.fail(WRONG_SIGN);
             }
-            place++;
+            text.step();
             into.add(STEP_LETTER, letter);
             return true;
         }
 
-        private boolean readNumber() {
-            int number = 0;
-            for (int digits = 0; digits < 5 && within(sign(), '0', '9'); digits++) {
-                number = number * 10 + sign() - '0';
-                place++;
-            }
-            if (within(sign(), '0', '9')) {
-                return fail(TOO_LONG);
-            }
-            into.add(STEP_NUMBER, number);
-            return true;
+        private static boolean isSum(int sign) {
+            return sign == '+' || sign == '-';
         }
 
-        private int sign() {
-            return place < end ? text.at(place) : END;
-        }
-
-        private boolean take(int wanted) {
-            if (sign() != wanted) {
-                return fail(WRONG_SIGN);
-            }
-            place++;
-            return true;
-        }
-
-        private boolean fail(int number) {
-            fault = -1000 * number - place;
-            return false;
+        private static boolean isProduct(int sign) {
+            return sign == '*' || sign == '/' || sign == '%';
         }
     }
 
@@ -1037,9 +1062,6 @@ public final class YearFigures {
         private final int[] figure = new int[MOST_LINES];
         private final int[] change = new int[MOST_LINES];
         int lines = 0;
-        private int end = 0;
-        private int place = 0;
-        private int fault = 0;
 
         ReportReader(Tape text, Office office) {
             this.text = text;
@@ -1048,20 +1070,13 @@ public final class YearFigures {
 
         /** 0, or the fault as it is answered. */
         int read(int n) {
-            end = n;
-            place = 0;
-            fault = 0;
+            text.startReading(n);
             lines = 0;
             boolean goesOn = readLine();
-            for (int i = 0; i < REPORT_BYTES && goesOn && place < end; i++) {
-                if (sign() == ';') {
-                    place++;
-                    goesOn = readLine();
-                } else {
-                    goesOn = fail(WRONG_SIGN);
-                }
+            for (int i = 0; i < REPORT_BYTES && goesOn && !text.isAtEnd(); i++) {
+                goesOn = text.take(';') && readLine();
             }
-            return fault;
+            return text.stopReading();
         }
 
         void enterInto(Books books) {
@@ -1071,66 +1086,43 @@ public final class YearFigures {
         }
 
         private boolean readLine() {
-            if (!within(sign(), 'a', 'f')) {
-                return fail(WRONG_SIGN);
+            int c = text.sign() - 'a';
+            if (!within(c, 0, COUNTIES - 1)) {
+                return text.fail(WRONG_SIGN);
             }
             if (lines >= MOST_LINES) {
-                return fail(TOO_MANY);
+                return text.fail(TOO_MANY);
             }
-            county[lines] = sign() - 'a';
-            if (!office.hasCounty(county[lines])) {
-                return fail(NOT_TOLD);
+            if (!office.hasCounty(c)) {
+                return text.fail(NOT_TOLD);
             }
-            place++;
-            return readFigure() && readChange();
-        }
-
-        private boolean readFigure() {
-            if (!within(sign(), '0', '5')) {
-                return fail(WRONG_SIGN);
+            text.step();
+            int f = text.sign() - '0';
+            if (!within(f, 0, FIGURES - 1)) {
+                return text.fail(WRONG_SIGN);
             }
-            int told = sign() - '0';
-            if (!office.hasFigure(told)) {
-                return fail(NOT_TOLD);
+            if (!office.hasFigure(f)) {
+                return text.fail(NOT_TOLD);
             }
-            if (lines < MOST_LINES) {
-                figure[lines] = told;
-            }
-            place++;
-            return true;
+            text.step();
+            county[lines] = c;
+            figure[lines] = f;
+            return readChange();
         }
 
         private boolean readChange() {
-            int direction = sign();
+            int direction = text.sign();
             if (direction != '+' && direction != '-') {
-                return fail(WRONG_SIGN);
+                return text.fail(WRONG_SIGN);
             }
-            place++;
-            if (!within(sign(), '0', '9')) {
-                return fail(WRONG_SIGN);
+            text.step();
+            int number = text.takeNumber(3);
+            if (number == NONE || lines >= MOST_LINES) {
+                return false;
             }
-            int number = 0;
-            for (int digits = 0; digits < 3 && within(sign(), '0', '9'); digits++) {
-                number = number * 10 + sign() - '0';
-                place++;
-            }
-            if (within(sign(), '0', '9')) {
-                return fail(TOO_LONG);
-            }
-            if (lines < MOST_LINES) {
-                change[lines] = direction == '+' ? number : -number;
-                lines++;
-            }
+            change[lines] = direction == '+' ? number : -number;
+            lines++;
             return true;
-        }
-
-        private int sign() {
-            return place < end ? text.at(place) : END;
-        }
-
-        private boolean fail(int number) {
-            fault = -1000 * number - place;
-            return false;
         }
     }
 
@@ -1453,7 +1445,9 @@ public final class YearFigures {
 
         /** Multiplied across, so that a county with the divisor 0 is ahead of all that have another. */
         private boolean isAhead(int c, int other, int way) {
-            return office.peopleOf(c) * divisor(shareOf(other), way) > office.peopleOf(other) * divisor(shareOf(c), way);
+            int mine = office.peopleOf(c) * divisor(shareOf(other), way);
+            int theirs = office.peopleOf(other) * divisor(shareOf(c), way);
+            return mine > theirs;
         }
 
         private static int divisor(int has, int way) {

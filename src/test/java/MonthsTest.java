@@ -77,7 +77,8 @@ public final class MonthsTest {
         // rounded: 1 in 7 months is 12 / 7 = 1.71; 3 in 8 is 4.5, half up; 1 in 5 is 2.4
         YearFigures y = Due.office(1, 1);
         Due.law(y, "n1(m=0)");
-        y.months(7);
+        DUE.is("one MONTH is enough", y.months(1) + y.figureIs(0, 2), 13);
+        y.months(6);
         DUE.is("1.71 is 2", y.figureIs(0, 2), 2);
         y.months(5);
         Due.law(y, "n1(m<3)");
@@ -134,6 +135,12 @@ public final class MonthsTest {
         DUE.is("each YEAR anew", x.tried(36, 2), 18);
         DUE.is("made", x.tried(36, 3), 9);
         DUE.is("CAME OUT", x.tried(36, 1), 3);
+        x.months(12);
+        DUE.is("CAME OUT in them", x.tried(24, 1), 2);
+        DUE.is("CAME OUT in all", x.count(4), 1);
+        x = Due.office(1, 1);
+        x.figure(0, 3);
+        x.staff(6);
         Due.law(x, "k2+y(1=1)");
         DUE.is("y is the YEAR", x.tried(24, 2), 6 + 6);
         DUE.is("made with y", x.tried(24, 3), 3 + 2);

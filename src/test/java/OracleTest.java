@@ -18,7 +18,7 @@ public final class OracleTest {
     }
 
     public static void main(String[] args) {
-        int runs = args.length > 0 ? Integer.parseInt(args[0]) : 600;
+        int runs = args.length > 0 ? Integer.parseInt(args[0]) : 400;
         int first = args.length > 1 ? Integer.parseInt(args[1]) : 0;
         Due due = new Due("OracleTest");
         for (int run = first; run < first + runs; run++) {
@@ -62,7 +62,12 @@ public final class OracleTest {
         for (int f = 0; f < figures; f++) {
             figure(f, to(in(5) ? 9999 : 300));
         }
+        boolean isDense = in(2);
         while (calls < 500) {
+            if (isDense && in(40)) {
+                fillCounts(counties, figures);
+                fillRecords();
+            }
             switch (random.nextInt(10)) {
                 case 0:
                     tellSomething(scale);
@@ -79,6 +84,38 @@ public final class OracleTest {
                 default:
                     ask(to(19));
             }
+        }
+    }
+
+    private void fillCounts(int counties, int figures) {
+        int most = in(2) ? 999 : 40;
+        for (int c = 0; c < counties; c++) {
+            String text = "";
+            for (int f = 0; f < figures; f++) {
+                text += (f > 0 ? ";" : "") + (char) ('a' + c) + f + (in(8) ? "-" : "+") + to(most);
+            }
+            feed(text);
+            is("report of " + text, x.report(text.length()), o.report(text.length()));
+        }
+        for (int i = 0; i < 4; i++) {
+            table();
+            ask(7);
+        }
+    }
+
+    /** Of few ages and hours that lie side by side, so that there are twos. */
+    private void fillRecords() {
+        int hours = 1 + to(5);
+        int hour = to(23);
+        int ages = to(2);
+        for (int r = 0; r < 20; r++) {
+            if (in(2)) {
+                record(r, 0, 20 + to(ages), (hour + to(hours)) % 24, to(1));
+            }
+        }
+        for (int i = 0; i < 4; i++) {
+            ask(10 + i % 3);
+            ask(15);
         }
     }
 
@@ -189,6 +226,10 @@ public final class OracleTest {
         int age = about(in(2) ? 99 : 2);
         int hour = in(2) ? about(23) : in(2) ? to(3) : 20 + to(3);
         int kind = about(in(4) ? 9 : 1);
+        record(r, county, age, hour, kind);
+    }
+
+    private void record(int r, int county, int age, int hour, int kind) {
         String call = "record(" + r + ", " + county + ", " + age + ", " + hour + ", " + kind + ")";
         is(call, x.record(r, county, age, hour, kind), o.record(r, county, age, hour, kind));
     }

@@ -83,6 +83,12 @@ public final class RecordsTest {
         DUE.is("joined(3, -1)", x.joined(3, -1), -1);
         Due.definition(x, 0, "(g>99)");
         DUE.is("none, still by none", x.joined(0, 0), 0);
+        Due.definition(x, 4, "(g<8)");
+        DUE.is("eight by one, though three have less bits", x.joined(8, 1), 16);
+        DUE.is("how many", x.joined(8, 0), 1);
+        Due.definition(x, 0, "(g=9)");
+        DUE.is("one by 0", x.joined(1, 1), 1);
+        DUE.is("nine by two, one of which is 0", x.joined(9, 1), 1 + 16);
     }
 
     private static void windows() {

@@ -89,6 +89,9 @@ public final class SharesTest {
         DUE.is("loses(0, 2)", x.loses(0, 2), -1);
         DUE.is("loses(0, -1)", x.loses(0, -1), -1);
         DUE.is("two never lose", of(6, 7).loses(0, 0), -2);
+        DUE.is("60 to be shared, the last that is looked at", of(385, 49, 146, 72).loses(0, 0), 60);
+        DUE.is("which", of(385, 49, 146, 72).loses(0, 1), 1);
+        DUE.is("61 to be shared are too many", of(281, 297, 200, 109).loses(0, 0), -2);
         // brute force over small counties: the first number by which one more takes one away
         for (int a = 1; a < 14; a++) {
             YearFigures y = of(a, 13 - a, 5, 2);
@@ -109,6 +112,9 @@ public final class SharesTest {
         DUE.is("way 0 never", x.breaks(10, 0), 0);
         // way 3: each has one, a has 7 of 10: less than 8
         DUE.is("way 3: a has less than rounded down", x.breaks(10, 3), 1);
+        // quotas of 10: 8, 0.85, 0.6, 0.55; way 1 gives 9 and 1
+        DUE.is("one more than a quota that is whole", of(800, 85, 60, 55).breaks(10, 1), 1);
+        DUE.is("breaks(0, 2)", x.breaks(0, 2), 0);
         DUE.is("breaks(-1, 0)", x.breaks(-1, 0), -1);
         DUE.is("breaks(1000, 0)", x.breaks(1000, 0), -1);
         DUE.is("breaks(5, 4)", x.breaks(5, 4), -1);
@@ -139,6 +145,20 @@ public final class SharesTest {
         DUE.is("a single one: half down", y.table(1, 1, 10, 1), 0);
         DUE.is("a single one: off as county and as figure", y.table(1, 1, 10, 0), 10);
         DUE.is("4 by 3", z.table(15, 7, 50, 0), 8);
+        // by 4: with a multiple that may go up 84 would be as good, with no 1 that may go up 196
+        filled(4, 3, 4, new int[] {4, 9, 3, 9, 0, 9, 2, 6, 6, 8, 5, 8}, 8, 98);
+        // by 2: with the sum of all off by 2, 8 would be as good
+        filled(2, 3, 2, new int[] {9, 0, 4, 9, 3, 1}, 4, 17);
+        filled(2, 1, 2, new int[] {5, 2}, 2, 0);
+    }
+
+    private static void filled(int counties, int figures, int base, int[] counts, int off, int up) {
+        YearFigures x = Due.office(counties, figures);
+        for (int i = 0; i < counts.length; i++) {
+            Due.report(x, "" + (char) ('a' + i / figures) + i % figures + "+" + counts[i]);
+        }
+        DUE.is("off of 4 by 3", x.table((1 << counties) - 1, (1 << figures) - 1, base, 0), off);
+        DUE.is("up of 4 by 3", x.table((1 << counties) - 1, (1 << figures) - 1, base, 1), up);
     }
 
     private static void wrongTables() {
@@ -230,5 +250,10 @@ public final class SharesTest {
         y.figure(0, 4);
         Due.law(y, "k50(m<11);k7(c=0);k5+a(1=1)");
         DUE.is("b for 5, 6, 7 is not less than a's 7: a, a", y.figureIs(0, 3), 5 + 6 + 7 + 7);
+        y.figure(0, 2);
+        Due.law(y, "k1(s=0);k2(c=0&a=0);k9(1=1)");
+        DUE.is("of like ones the lowest, by which the second is dear", y.figureIs(0, 3), 1 + 9);
+        y.staff(20);
+        DUE.is("in December too", y.tried(12, 2), 1 + 9);
     }
 }
