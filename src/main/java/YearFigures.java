@@ -701,6 +701,8 @@ public final class YearFigures {
     /** All that months change, and that can be kept and undone. */
     private static final class Books {
         private final int[] counts = new int[COUNTIES * FIGURES];
+        /** Kept beside the counts, for the law asks for a figure's sum at every step. */
+        private final int[] sums = new int[FIGURES];
         private final int[] history = new int[FIGURES * MONTHS];
         private final int[] published = new int[REMEMBERED * FIGURES];
         int month = 0;
@@ -715,6 +717,7 @@ public final class YearFigures {
 
         void takeOver(Books other) {
             System.arraycopy(other.counts, 0, counts, 0, counts.length);
+            System.arraycopy(other.sums, 0, sums, 0, sums.length);
             System.arraycopy(other.history, 0, history, 0, history.length);
             System.arraycopy(other.published, 0, published, 0, published.length);
             month = other.month;
@@ -738,11 +741,7 @@ public final class YearFigures {
         }
 
         int sumOf(int f) {
-            int sum = 0;
-            for (int c = 0; c < COUNTIES; c++) {
-                sum += countOf(c, f);
-            }
-            return sum;
+            return within(f, 0, FIGURES - 1) ? sums[f] : 0;
         }
 
         int forecastOf(int f) {
@@ -759,7 +758,9 @@ public final class YearFigures {
         void change(int c, int f, int by) {
             if (within(c, 0, COUNTIES - 1) && within(f, 0, FIGURES - 1)) {
                 int place = c * FIGURES + f;
+                sums[f] -= counts[place];
                 counts[place] = Math.max(0, Math.min(MOST, counts[place] + by));
+                sums[f] += counts[place];
             }
         }
 
@@ -784,6 +785,7 @@ public final class YearFigures {
                 }
             }
             Arrays.fill(counts, 0);
+            Arrays.fill(sums, 0);
             Arrays.fill(history, 0);
             daysLeft = office.staffDays;
             month = 0;
@@ -796,8 +798,8 @@ public final class YearFigures {
      * A definition is a program with one rule without an E.
      */
     private static final class Program {
-        private final int[] steps;
-        private final int[] arguments;
+        final int[] steps;
+        final int[] arguments;
         private final int[] letter;
         final int[] startOfE;
         final int[] startOfC;
@@ -865,14 +867,6 @@ public final class YearFigures {
                 endOfC[ruleCount] = length;
                 ruleCount++;
             }
-        }
-
-        int stepAt(int place) {
-            return place >= 0 && place < length ? steps[place] : END;
-        }
-
-        int argumentAt(int place) {
-            return place >= 0 && place < length ? arguments[place] : 0;
         }
 
         int letterOf(int rule) {
@@ -1150,11 +1144,14 @@ public final class YearFigures {
 
         /** 0 if a division by 0 was refused: for a C that is "does not hold". */
         private int result(Program program, int from, int to) {
+            int[] steps = program.steps;
+            int[] arguments = program.arguments;
+            int end = Math.min(to, Math.min(steps.length, arguments.length));
             int top = -1;
-            int at = from;
-            for (int done = from; done < to && at < to; done++) {
-                int step = program.stepAt(at);
-                int argument = program.argumentAt(at);
+            int at = Math.max(0, from);
+            for (int done = 0; done < LAW_BYTES && at < end; done++) {
+                int step = steps[at];
+                int argument = arguments[at];
                 at++;
                 if (step == STEP_NUMBER || step == STEP_LETTER) {
                     top++;
@@ -1169,7 +1166,7 @@ public final class YearFigures {
                 } else if (step == '&' || step == '|') {
                     // What is on top is the answer already, or it does not matter any more.
                     boolean isDecided = stack[top] == (step == '|' ? 1 : 0);
-                    at = isDecided ? argument : at;
+                    at = isDecided ? Math.max(at, argument) : at;
                     top = isDecided ? top : top - 1;
                 } else if (top < 1 || isRefused(step, stack[top])) {
                     return 0;
