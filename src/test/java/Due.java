@@ -22,6 +22,21 @@ final class Due {
         is(call, got ? 1 : 0, want ? 1 : 0);
     }
 
+    int asked() {
+        return asked;
+    }
+
+    int wrong() {
+        return wrong;
+    }
+
+    /** Numbers just beyond two bounds and far beyond them, those among them that fewer bits would take for one between. */
+    static int[] outside(int least, int most) {
+        int[] all = {least - 1, most + 1, least - 2, most + 2, least + 32, least + 64, least - 32, least + 256, least - 256,
+            least + 65536, least - 65536, most + 65536, Integer.MIN_VALUE, Integer.MIN_VALUE + 10, Integer.MAX_VALUE};
+        return java.util.Arrays.stream(all).filter(n -> n < least || n > most).toArray();
+    }
+
     /** Feeds a text, filled up with zeros to whole feeds; how many bytes it has. */
     static int feed(YearFigures x, String text) {
         for (int at = 0; at < text.length(); at += 20) {
