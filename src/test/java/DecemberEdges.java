@@ -3,15 +3,9 @@ final class DecemberEdges {
     private DecemberEdges() {
     }
 
-    private static YearFigures under(int counties, int figures, String law) {
-        YearFigures x = Due.office(counties, figures);
-        Due.law(x, law);
-        return x;
-    }
-
     @Edge(promise = 9, says = "In MONTH 11, behind that, the STAFF goes out")
     static void staffGoesOutInMonth11(Due due) {
-        YearFigures x = under(1, 1, "n1(m=11);k1(1=1)");
+        YearFigures x = Due.under(1, 1, "n1(m=11);k1(1=1)");
         x.figure(0, 5);
         x.staff(99);
         due.is("not in MONTHS 0 to 10", x.tried(11, 3), 0);
@@ -40,14 +34,14 @@ final class DecemberEdges {
     static void whileBelowTarget(Due due) {
         int[] made = {3, 2, 1, 0, 0};
         for (int counted = 0; counted <= 4; counted++) {
-            YearFigures x = under(2, 1, "k1(1=1)");
+            YearFigures x = Due.under(2, 1, "k1(1=1)");
             x.figure(0, 3);
             x.staff(99);
             Due.report(x, "a0+" + counted / 2 + ";b0+" + (counted - counted / 2));
             due.is("made with " + counted, x.tried(12, 3), made[counted]);
             due.is("came out with " + counted, x.tried(12, 1), counted <= 3 ? 1 : 0);
         }
-        YearFigures zero = under(1, 1, "k1(1=1)");
+        YearFigures zero = Due.under(1, 1, "k1(1=1)");
         zero.figure(0, 0);
         zero.staff(99);
         due.is("0 is not below 0", zero.tried(12, 3), 0);
@@ -56,7 +50,7 @@ final class DecemberEdges {
 
     @Edge(promise = 9, says = "and at most 200 times")
     static void atMost200Times(Due due) {
-        YearFigures x = under(2, 2, "k0(1=1)");
+        YearFigures x = Due.under(2, 2, "k0(1=1)");
         x.figure(0, 200);
         x.figure(1, 0);
         due.is("200 times", x.tried(12, 3), 200);
@@ -73,7 +67,7 @@ final class DecemberEdges {
     @Edge(promise = 9, says = "one more in the told county with the least k (of like ones the lowest; asked as it is then)")
     static void theCountyWithTheLeastK(Due due) {
         // who had the first is seen by the second: 2 DAYS if it was the lowest, 9 else
-        YearFigures like = under(6, 1, "k1(s=0);k2(c=0&a=1);k9(1=1)");
+        YearFigures like = Due.under(6, 1, "k1(s=0);k2(c=0&a=1);k9(1=1)");
         like.figure(0, 2);
         like.staff(9999);
         due.is("of like ones the lowest", like.tried(12, 2), 3);
@@ -84,21 +78,21 @@ final class DecemberEdges {
         told.staff(9999);
         Due.law(told, "k0(c=0);k1(s=0);k2(c=2&a=1);k9(1=1)");
         due.is("the lowest of those that are told", told.tried(12, 2), 3);
-        YearFigures last = under(6, 1, "k4(c=5);k5(1=1)");
+        YearFigures last = Due.under(6, 1, "k4(c=5);k5(1=1)");
         last.figure(0, 7);
         last.staff(9999);
         due.is("the last with the least", last.tried(12, 2), 28);
         // 1 2 3 for a's first three, then b for 4 each: asked as it is then
-        YearFigures then = under(2, 1, "k1+a(c=0);k4(1=1)");
+        YearFigures then = Due.under(2, 1, "k1+a(c=0);k4(1=1)");
         then.figure(0, 7);
         then.staff(9999);
         due.is("1, 2, 3 and 4 four times", then.tried(12, 2), 1 + 2 + 3 + 4 * 4);
         // s is asked as it is then, too
-        YearFigures all = under(2, 1, "k1+s(1=1)");
+        YearFigures all = Due.under(2, 1, "k1+s(1=1)");
         all.figure(0, 4);
         all.staff(9999);
         due.is("1, 2, 3, 4", all.tried(12, 2), 10);
-        YearFigures december = under(1, 1, "k9(m<11);k2(m=11);k9(1=1)");
+        YearFigures december = Due.under(1, 1, "k9(m<11);k2(m=11);k9(1=1)");
         december.figure(0, 4);
         december.staff(9999);
         due.is("THE MONTH is 11 then", december.tried(12, 2), 8);
@@ -108,14 +102,14 @@ final class DecemberEdges {
     static void asManyDaysAsAreLeft(Due due) {
         int[] made = {0, 0, 0, 1, 1, 1, 2, 2, 2, 3, 3};
         for (int days = 0; days <= 10; days++) {
-            YearFigures x = under(1, 1, "k3(1=1)");
+            YearFigures x = Due.under(1, 1, "k3(1=1)");
             x.figure(0, 3);
             x.staff(days);
             due.is("made with " + days + " DAYS", x.tried(12, 3), made[days]);
             due.is("used with " + days + " DAYS", x.tried(12, 2), 3 * made[days]);
             due.is("came out with " + days + " DAYS", x.tried(12, 1), days >= 9 ? 1 : 0);
         }
-        YearFigures two = under(1, 2, "k7(f=0);k2(1=1)");
+        YearFigures two = Due.under(1, 2, "k7(f=0);k2(1=1)");
         two.figure(0, 2);
         two.figure(1, 2);
         two.staff(11);
@@ -125,20 +119,20 @@ final class DecemberEdges {
         two.staff(6);
         due.is("figure 0 has none", two.tried(12, 2), 4);
         // the cheapest that comes later is not waited for
-        YearFigures first = under(1, 1, "k5(a=0);k0(1=1)");
+        YearFigures first = Due.under(1, 1, "k5(a=0);k0(1=1)");
         first.figure(0, 9);
         first.staff(4);
         due.is("the first is too dear", first.tried(12, 3), 0);
         first.staff(5);
         due.is("the first, and the others for none", first.tried(12, 3), 9);
-        YearFigures none = under(1, 1, "k0(1=1)");
+        YearFigures none = Due.under(1, 1, "k0(1=1)");
         none.figure(0, 9);
         due.is("0 DAYS are left, and 0 are enough", none.tried(12, 3), 9);
     }
 
     @Edge(promise = 9, says = "then CAME OUT is more by as many told figures as are at their TARGET")
     static void cameOutAtTarget(Due due) {
-        YearFigures x = under(1, 3, "k1(1=1)");
+        YearFigures x = Due.under(1, 3, "k1(1=1)");
         x.figure(0, 4);
         x.figure(1, 5);
         x.figure(2, 6);
@@ -157,9 +151,9 @@ final class DecemberEdges {
 
     @Edge(promise = 9, says = "what each told figure is (its COUNT in all counties) is PUBLISHED")
     static void publishedInAllCounties(Due due) {
-        YearFigures x = under(6, 1, "k1(1=1)");
+        YearFigures x = Due.under(6, 1, "k1(1=1)");
         for (int c = 0; c < 6; c++) {
-            Due.report(x, ((char) ('a' + c) + "0+999;").repeat(11).substring(0, 76));
+            Due.fill(x, c, 0);
         }
         x.months(12);
         due.is("the most", x.published(0, 0), 59994);
@@ -171,7 +165,7 @@ final class DecemberEdges {
 
     @Edge(promise = 9, says = "all COUNTS, all of HISTORY are 0, all DAYS of the STAFF are left again, THE MONTH 0")
     static void allIsZeroInJanuary(Due due) {
-        YearFigures x = under(6, 6, "n1+c(1=1);k1(1=1)");
+        YearFigures x = Due.under(6, 6, "n1+c(1=1);k1(1=1)");
         x.staff(77);
         x.months(12);
         for (int i = 0; i < 36; i++) {
@@ -199,7 +193,7 @@ final class DecemberEdges {
 
     @Edge(promise = 12, says = "3 DAYS that it needs (-2: it can't)")
     static void daysThatItNeeds(Due due) {
-        YearFigures x = under(1, 1, "k2(1=1)");
+        YearFigures x = Due.under(1, 1, "k2(1=1)");
         x.figure(0, 5);
         due.is("whatever the STAFF has", x.figureIs(0, 3), 10);
         Due.report(x, "a0+4");
@@ -216,7 +210,7 @@ final class DecemberEdges {
 
     @Edge(promise = 12, says = "more than 200 more: it can't")
     static void moreThan200More(Due due) {
-        YearFigures x = under(1, 1, "k99(1=1)");
+        YearFigures x = Due.under(1, 1, "k99(1=1)");
         x.figure(0, 200);
         due.is("200 more", x.figureIs(0, 3), 19800);
         x.figure(0, 201);
@@ -229,7 +223,7 @@ final class DecemberEdges {
 
     @Edge(promise = 12, says = "(as in December, for itself alone, from now, m 11;")
     static void asInDecemberFromNow(Due due) {
-        YearFigures x = under(2, 2, "n5(1=1);k9(m<11);k50(m>11);k1+a(c=0);k3(1=1)");
+        YearFigures x = Due.under(2, 2, "n5(1=1);k9(m<11);k50(m>11);k1+a(c=0);k3(1=1)");
         x.figure(0, 5);
         due.is("m is 11, asked as it is then: 1 2 3 (a of like ones) 3 3", x.figureIs(0, 3), 12);
         due.is("of the other alone", x.figureIs(1, 3), 1 + 2 + 98 * 3);
@@ -239,7 +233,7 @@ final class DecemberEdges {
     }
 
     private static YearFigures four() {
-        YearFigures x = under(1, 4, "k1(f=0);k2(f=1);k3(f=2);k4(1=1)");
+        YearFigures x = Due.under(1, 4, "k1(f=0);k2(f=1);k3(f=2);k4(1=1)");
         for (int f = 0; f < 4; f++) {
             x.figure(f, 1);
         }
@@ -258,7 +252,7 @@ final class DecemberEdges {
             due.is("which with " + staff, x.canComeOut(1), which[staff]);
             due.is("DAYS with " + staff, x.canComeOut(2), days[staff]);
         }
-        YearFigures like = under(1, 6, "k5(1=1)");
+        YearFigures like = Due.under(1, 6, "k5(1=1)");
         for (int f = 0; f < 6; f++) {
             like.figure(f, 1);
         }
@@ -274,7 +268,7 @@ final class DecemberEdges {
         due.is("none", like.canComeOut(1), 0);
         due.is("no DAYS", like.canComeOut(2), 0);
         // 4, 3, 2, 1 DAYS
-        YearFigures falling = under(1, 4, "k4-f(1=1)");
+        YearFigures falling = Due.under(1, 4, "k4-f(1=1)");
         for (int f = 0; f < 4; f++) {
             falling.figure(f, 1);
         }
@@ -298,7 +292,7 @@ final class DecemberEdges {
 
     @Edge(promise = 19, says = "more than 200 more: it can't; at TARGET: 0; above: it can't")
     static void atAboveAndFarBelowTarget(Due due) {
-        YearFigures x = under(1, 4, "k0(1=1)");
+        YearFigures x = Due.under(1, 4, "k0(1=1)");
         x.figure(0, 200);
         x.figure(1, 201);
         x.figure(2, 5);
@@ -332,7 +326,7 @@ final class DecemberEdges {
 
     @Edge(promise = 19, says = "CAN COME OUT, what 0 how many, 1 which (bits), 2 DAYS")
     static void allSixCanComeOut(Due due) {
-        YearFigures x = under(6, 6, "k99(1=1)");
+        YearFigures x = Due.under(6, 6, "k99(1=1)");
         for (int f = 0; f < 6; f++) {
             x.figure(f, 16);
         }
@@ -355,7 +349,7 @@ final class DecemberEdges {
 
     @Edge(promise = 19, says = "for itself alone, from now, m 11")
     static void eachForItselfAlone(Due due) {
-        YearFigures x = under(1, 2, "k50(m<11);k1+s(1=1)");
+        YearFigures x = Due.under(1, 2, "k50(m<11);k1+s(1=1)");
         x.figure(0, 3);
         x.figure(1, 3);
         x.staff(12);

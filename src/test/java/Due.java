@@ -69,6 +69,17 @@ final class Due {
         return x;
     }
 
+    static YearFigures under(int counties, int figures, String law) {
+        YearFigures x = office(counties, figures);
+        law(x, law);
+        return x;
+    }
+
+    /** Brings the COUNT of a county and a figure to its most, 9999. */
+    static void fill(YearFigures x, int county, int figure) {
+        report(x, ("" + (char) ('a' + county) + figure + "+999;").repeat(11).substring(0, 76));
+    }
+
     void end() {
         System.out.println(test + ": " + asked + " answers asked, " + wrong + " not as due");
         if (wrong != 0) {

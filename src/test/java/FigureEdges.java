@@ -36,7 +36,7 @@ final class FigureEdges {
         due.is("no county", x.figureIs(0, 1), 0);
         for (int c = 0; c < 6; c++) {
             x.county(c, 0);
-            Due.report(x, ((char) ('a' + c) + "0+999;").repeat(11).substring(0, 76));
+            Due.fill(x, c, 0);
             due.is("the most of " + (c + 1), x.figureIs(0, 1), 9999 * (c + 1));
         }
         Due.report(x, "f0-999;a0-0");

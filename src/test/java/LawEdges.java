@@ -4,9 +4,7 @@ final class LawEdges {
     }
 
     private static YearFigures under(String law) {
-        YearFigures x = Due.office(1, 1);
-        Due.law(x, law);
-        return x;
+        return Due.under(1, 1, law);
     }
 
     /** How many happen in a month by an E: 0 to 99. */
@@ -182,9 +180,7 @@ final class LawEdges {
         x.county(5, 9999);
         x.figure(5, 9999);
         for (int c = 0; c < 6; c++) {
-            for (int i = 0; i < 11; i++) {
-                Due.report(x, (char) ('a' + c) + "5+999");
-            }
+            Due.fill(x, c, 5);
         }
         x.months(11);
         String[] tests = {"c=5", "f=5", "a=9999", "s=59994", "t=9999", "p=9999", "m=11", "y=0", "r=0", "g=0", "h=0", "q=0"};

@@ -5,15 +5,9 @@ final class MonthEdges {
     private MonthEdges() {
     }
 
-    private static YearFigures under(int counties, int figures, String law) {
-        YearFigures x = Due.office(counties, figures);
-        Due.law(x, law);
-        return x;
-    }
-
     /** THE YEAR 998 and so many MONTHS. */
     private static YearFigures lateYear(int months, String law) {
-        YearFigures x = under(1, 1, law);
+        YearFigures x = Due.under(1, 1, law);
         for (int i = 0; i < 199; i++) {
             x.months(60);
         }
@@ -23,7 +17,7 @@ final class MonthEdges {
 
     @Edge(promise = 9, says = "MONTHS (1 to 60) go by (as many as can): how many happened in all")
     static void monthsFrom1To60(Due due) {
-        YearFigures x = under(1, 1, "n2(1=1)");
+        YearFigures x = Due.under(1, 1, "n2(1=1)");
         due.is("months(1)", x.months(1), 2);
         due.is("THE MONTH", x.count(1), 1);
         due.is("months(60)", x.months(60), 120);
@@ -33,7 +27,7 @@ final class MonthEdges {
 
     @Edge(promise = 9, says = "NONE: no such n.")
     static void monthsOutsideAreRefused(Due due) {
-        YearFigures x = under(1, 1, "n2(1=1)");
+        YearFigures x = Due.under(1, 1, "n2(1=1)");
         for (int n : Due.outside(1, 60)) {
             due.is("months(" + n + ")", x.months(n), -1);
         }
@@ -45,7 +39,7 @@ final class MonthEdges {
 
     @Edge(promise = 9, says = "(COUNTED or not; the STAFF's aside)")
     static void whatHappensCountedOrNot(Due due) {
-        YearFigures x = under(2, 1, "n3(1=1);x(c=1)");
+        YearFigures x = Due.under(2, 1, "n3(1=1);x(c=1)");
         x.figure(0, 50);
         due.is("COUNTED or not, the STAFF's aside", x.months(12), 72);
         due.is("36 were COUNTED and 14 made", x.published(0, 0), 50);
@@ -63,7 +57,7 @@ final class MonthEdges {
 
     @Edge(promise = 9, says = "Else THE MONTH is one more.")
     static void elevenMonthsEndNoYear(Due due) {
-        YearFigures x = under(1, 1, "n2(1=1)");
+        YearFigures x = Due.under(1, 1, "n2(1=1)");
         x.months(11);
         due.is("THE MONTH", x.count(1), 11);
         due.is("THE YEAR", x.count(0), 0);
@@ -93,18 +87,18 @@ final class MonthEdges {
 
     @Edge(promise = 9, says = "each told county, by numbers, and in it each told figure, by numbers")
     static void toldOnesByNumbers(Due due) {
-        YearFigures none = under(0, 0, "n5(1=1);d10(1=1)");
+        YearFigures none = Due.under(0, 0, "n5(1=1);d10(1=1)");
         due.is("without counties and figures", none.months(1), 0);
         due.is("THE MONTH goes by", none.count(1), 1);
         due.is("nothing is drawn", none.count(9), 1);
-        YearFigures counties = under(6, 0, "n5(1=1);d10(1=1)");
+        YearFigures counties = Due.under(6, 0, "n5(1=1);d10(1=1)");
         due.is("without figures", counties.months(1), 0);
         due.is("nothing is drawn, too", counties.count(9), 1);
-        YearFigures figures = under(0, 6, "n5(1=1);d10(1=1)");
+        YearFigures figures = Due.under(0, 6, "n5(1=1);d10(1=1)");
         due.is("without counties", figures.months(1), 0);
         due.is("nothing is drawn either", figures.count(9), 1);
         // the sum of a figure is asked when its county comes: 1, 2, 4 .. happen in a, b, c .., in each figure alike
-        YearFigures x = under(6, 6, "n1+s(1=1)");
+        YearFigures x = Due.under(6, 6, "n1+s(1=1)");
         due.is("all told", x.months(1), 6 * 63);
         for (int c = 0; c < 6; c++) {
             for (int f = 0; f < 6; f++) {
@@ -112,7 +106,7 @@ final class MonthEdges {
             }
         }
         // draws from 1 are 2 7 6 5 2 9: county by county, in it figure by figure
-        YearFigures drawn = under(2, 3, "d6(1=1)");
+        YearFigures drawn = Due.under(2, 3, "d6(1=1)");
         drawn.months(1);
         int[] want = {1, 0, 0, 1, 1, 0};
         for (int i = 0; i < 6; i++) {
@@ -123,20 +117,20 @@ final class MonthEdges {
     @Edge(promise = 9, says = "n happen, and with a DRAW below d (n, d asked ahead) one more")
     static void aDrawBelowD(Due due) {
         // the first draw from 1 is 39022: 2
-        due.is("2 is below 3", under(1, 1, "n5(1=1);d3(1=1)").months(1), 6);
-        due.is("2 is not below 2", under(1, 1, "n5(1=1);d2(1=1)").months(1), 5);
-        due.is("99 and one more", under(1, 1, "n99(1=1);d10(1=1)").months(1), 100);
+        due.is("2 is below 3", Due.under(1, 1, "n5(1=1);d3(1=1)").months(1), 6);
+        due.is("2 is not below 2", Due.under(1, 1, "n5(1=1);d2(1=1)").months(1), 5);
+        due.is("99 and one more", Due.under(1, 1, "n99(1=1);d10(1=1)").months(1), 100);
         // d is asked with the count ahead of what happens
-        due.is("d asked ahead", under(1, 1, "n5(1=1);d10(a=0)").months(1), 6);
+        due.is("d asked ahead", Due.under(1, 1, "n5(1=1);d10(a=0)").months(1), 6);
         due.is("a DRAW of 0 is below 1", zero().months(1), 1);
-        YearFigures x = under(1, 1, "d0(1=1)");
+        YearFigures x = Due.under(1, 1, "d0(1=1)");
         x.months(1);
         due.is("a DRAW is made with d 0, too", x.count(9), 39022);
     }
 
     /** The next draw is 0. */
     private static YearFigures zero() {
-        YearFigures x = under(1, 1, "d1(1=1)");
+        YearFigures x = Due.under(1, 1, "d1(1=1)");
         for (int seed = 0; seed <= 65535; seed++) {
             if ((25173L * seed + 13849) % 65536 % 10 == 0) {
                 x.seed(seed);
@@ -155,7 +149,7 @@ final class MonthEdges {
                 seed++;
             }
             for (int d = 0; d <= 10; d++) {
-                YearFigures x = under(1, 1, "d" + d + "(1=1)");
+                YearFigures x = Due.under(1, 1, "d" + d + "(1=1)");
                 x.seed(seed);
                 due.is("X " + want + " and d " + d, x.months(1), want % 10 < d ? 1 : 0);
             }
@@ -164,13 +158,13 @@ final class MonthEdges {
 
     @Edge(promise = 9, says = "if x does not hold (asked with what was so ahead), COUNT is so many more")
     static void xIsAskedAhead(Due due) {
-        YearFigures x = under(1, 1, "n4(1=1);x(a>3)");
+        YearFigures x = Due.under(1, 1, "n4(1=1);x(a>3)");
         due.is("4 happen", x.months(1), 4);
         due.is("with 0 ahead they are COUNTED", x.counted(0, 0), 4);
         due.is("4 more happen", x.months(1), 4);
         due.is("with 4 ahead they are not", x.counted(0, 0), 4);
         due.is("nor are they in HISTORY", x.figureIs(0, 11), 0);
-        YearFigures y = under(2, 1, "n4(1=1);x(s=4)");
+        YearFigures y = Due.under(2, 1, "n4(1=1);x(s=4)");
         y.months(1);
         due.is("COUNTED in a", y.counted(0, 0), 4);
         due.is("not COUNTED in b", y.counted(1, 0), 0);
@@ -178,7 +172,7 @@ final class MonthEdges {
 
     @Edge(promise = 9, says = "HISTORY of the figure too. (9999 at most.)")
     static void countsOfMonthsStopAt9999(Due due) {
-        YearFigures x = under(1, 1, "n9(1=1)");
+        YearFigures x = Due.under(1, 1, "n9(1=1)");
         Due.report(x, "a0+999;".repeat(10) + "a0+0");
         due.is("9 happen", x.months(1), 9);
         due.is("just to 9999", x.counted(0, 0), 9999);
@@ -193,7 +187,7 @@ final class MonthEdges {
 
     @Edge(promise = 9, says = "HISTORY of a figure: how many were COUNTED by each MONTH of this YEAR that went by (0 to 9999; 0 of others)")
     static void historyAtItsMost(Due due) {
-        YearFigures x = under(6, 1, "n99(1=1);d10(1=1)");
+        YearFigures x = Due.under(6, 1, "n99(1=1);d10(1=1)");
         x.months(11);
         for (int m = 0; m < 11; m++) {
             due.is("HISTORY of MONTH " + m, x.figureIs(0, 10 + m), 600);
@@ -226,7 +220,7 @@ final class MonthEdges {
 
     @Edge(promise = 10, says = "MONTHS (1 to 60; as many as can) that are tried, what 0 as months()")
     static void triedFrom1To60(Due due) {
-        YearFigures x = under(1, 1, "n2(1=1)");
+        YearFigures x = Due.under(1, 1, "n2(1=1)");
         due.is("tried(1, 0)", x.tried(1, 0), 2);
         due.is("tried(60, 0)", x.tried(60, 0), 120);
         for (int n : Due.outside(1, 60)) {
@@ -245,7 +239,7 @@ final class MonthEdges {
 
     @Edge(promise = 10, says = "1 CAME OUT in them")
     static void cameOutInThem(Due due) {
-        YearFigures x = under(1, 2, "n1(m=0&f=0)");
+        YearFigures x = Due.under(1, 2, "n1(m=0&f=0)");
         x.figure(0, 1);
         x.figure(1, 0);
         x.months(24);
@@ -257,7 +251,7 @@ final class MonthEdges {
 
     @Edge(promise = 10, says = "2 DAYS of STAFF that were used in them, 3 how many the STAFF made")
     static void usedAndMadeInThem(Due due) {
-        YearFigures x = under(1, 6, "k1(1=1)");
+        YearFigures x = Due.under(1, 6, "k1(1=1)");
         for (int f = 0; f < 6; f++) {
             x.figure(f, 9999);
         }
@@ -278,7 +272,7 @@ final class MonthEdges {
 
     @Edge(promise = 10, says = "10 + f the COUNT of told figure f in all counties then; NONE: no such ones.")
     static void theCountThen(Due due) {
-        YearFigures x = under(6, 6, "n1+f(1=1)");
+        YearFigures x = Due.under(6, 6, "n1+f(1=1)");
         due.is("figure 0 behind 11", x.tried(11, 10), 66);
         due.is("figure 5 behind 11", x.tried(11, 15), 6 * 66);
         due.is("behind 12 it is 0 again", x.tried(12, 15), 0);
@@ -287,12 +281,12 @@ final class MonthEdges {
         for (int what : wrong) {
             due.is("tried(1, " + what + ")", x.tried(1, what), -1);
         }
-        YearFigures y = under(1, 5, "n1(1=1)");
+        YearFigures y = Due.under(1, 5, "n1(1=1)");
         due.is("the last told figure", y.tried(1, 14), 1);
         due.is("one that is not told", y.tried(1, 15), -1);
-        YearFigures full = under(6, 1, "n0(1=1)");
+        YearFigures full = Due.under(6, 1, "n0(1=1)");
         for (int c = 0; c < 6; c++) {
-            Due.report(full, ((char) ('a' + c) + "0+999;").repeat(11).substring(0, 76));
+            Due.fill(full, c, 0);
         }
         due.is("the most", full.tried(1, 10), 59994);
     }

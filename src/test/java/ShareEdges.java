@@ -282,7 +282,7 @@ final class ShareEdges {
         YearFigures full = of(0, 0, 0, 0, 0, 0);
         full.figure(0, 9999);
         for (int c = 0; c < 6; c++) {
-            Due.report(full, ((char) ('a' + c) + "0+999;").repeat(11).substring(0, 76));
+            Due.fill(full, c, 0);
         }
         due.is("without PEOPLE there are no shares", full.bled(0, 0), 59994);
         due.is("none is under", full.bled(0, 1), 0);

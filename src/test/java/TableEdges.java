@@ -72,7 +72,7 @@ final class TableEdges {
             rounded(due, new int[] {1, 1}, 50, new int[] {one[0]}, one[1], one[2]);
         }
         YearFigures most = Due.office(1, 1);
-        Due.report(most, "a0+999;".repeat(11).substring(0, 76));
+        Due.fill(most, 0, 0);
         due.is("9999 goes up to 10000", most.table(1, 1, 50, 1), 1);
         due.is("off", most.table(1, 1, 50, 0), 2);
     }
