@@ -246,6 +246,10 @@ final class RecordEdges {
         }
         twos(due, "nineteen and one", hours(all), 19, 1);
         for (int r = 0; r < 20; r++) {
+            all[r] = r < 13 ? 10 : 11;
+        }
+        twos(due, "thirteen and seven", hours(all), 91, 7);
+        for (int r = 0; r < 20; r++) {
             all[r] = (20 + r * 9 % 20) % 24;
         }
         twos(due, "twenty in a row over midnight", hours(all), 19, 10);
