@@ -581,7 +581,7 @@ public final class YearFigures {
         }
 
         int sign() {
-            return place < end ? byteAt(place) : END;
+            return place < end && place < size ? bytes[place] : END;
         }
 
         boolean isAtDigit() {

@@ -27,6 +27,7 @@ public final class LanguageTest {
 
     public static void main(String[] args) throws IOException {
         face();
+        faceOfTheDocument(Path.of("../shared/DOC.md"));
         inside();
         source(Files.readString(Path.of("src/main/java/YearFigures.java")));
         DUE.end();
@@ -50,6 +51,19 @@ public final class LanguageTest {
         DUE.is("one constructor", makers.length, 1);
         DUE.is("public", Modifier.isPublic(makers[0].getModifiers()), true);
         DUE.is("the class is public and final", YearFigures.class.getModifiers(), Modifier.PUBLIC | Modifier.FINAL);
+    }
+
+    /** Without a document it isn't asked. */
+    private static void faceOfTheDocument(Path document) throws IOException {
+        if (!Files.exists(document)) {
+            return;
+        }
+        TreeSet<String> told = new TreeSet<>();
+        Matcher member = Pattern.compile("(?m)^    public (\\w+ \\w+)\\((.*)\\);$").matcher(Files.readString(document));
+        while (member.find()) {
+            told.add(member.group(1) + "(" + member.group(2).replaceAll(" \\w+(?=,|$)", "").replace(" ", "") + ")");
+        }
+        DUE.is("the document's face is " + told, told.equals(new TreeSet<>(Arrays.asList(FACE))), true);
     }
 
     private static void inside() {
